@@ -1651,6 +1651,7 @@ public final class AgainstFeather {
         private final Moment moment;
         private final Laws laws;
         private int heart = 0;
+        /** NONE: by the law. */
         private int stick = 0;
         int count = 0;
         private final int[] own = new int[MOST_DEEDS];
@@ -1679,7 +1680,8 @@ public final class AgainstFeather {
 
         private void prepare(int one, int plainStick) {
             heart = one;
-            stick = plainStick;
+            // thousands of orders may be tried: the law is looked up once
+            stick = laws.hasSticks() ? NONE : plainStick;
             count = told.listDeeds(one, own);
             for (int i = 0; i < count; i++) {
                 weights[i] = laws.weight(told.rulingText(), own[i]);
@@ -1731,7 +1733,8 @@ public final class AgainstFeather {
         }
 
         private int settled(int truth, int shown, int laid) {
-            return Math.abs(shown - truth) > laws.sticks(heart, shown, laid, stick) ? truth : shown;
+            int sticks = stick == NONE ? laws.sticks(heart, shown, laid, 0) : stick;
+            return Math.abs(shown - truth) > sticks ? truth : shown;
         }
 
         int mostStick(int one) {

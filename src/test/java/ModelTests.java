@@ -5,7 +5,7 @@ import java.util.Random;
 
 /** Runs of calls by draws, each on a new object of the class and on PlainModel: every answer must be alike. */
 public final class ModelTests {
-    private static final int RUNS = Integer.getInteger("runs", 1500);
+    private static final int RUNS = Integer.getInteger("runs", 600);
     private static final int CALLS = 300;
 
     private final Random random;
@@ -188,7 +188,11 @@ public final class ModelTests {
         for (int i = 0; i < many; i++) s.append(many == 30 && random.nextInt(20) != 0 ? pick("end;", "lay 1;") : clause());
         String text = s.toString();
         if (random.nextInt(3) == 0) text = spoiled(text);
-        if (text.length() > 300) text = text.substring(0, 300);
+        readText(text.length() > 300 ? text.substring(0, 300) : text);
+    }
+
+    private void readText(String text) throws Exception {
+        if (text.length() > 300) text = "";
         call("end", 0);
         for (int at = 0; at < text.length(); at += 20) {
             int[] fours = new int[5];
@@ -208,12 +212,109 @@ public final class ModelTests {
     // ---- a run
 
     private void go() throws Exception {
+        switch (seed % 6) {
+            case 0 -> lendings();
+            case 1 -> denials();
+            case 2 -> laws();
+            case 3 -> orders();
+            default -> allSorts();
+        }
+        lookAtAll();
+    }
+
+    /** Hearts about their feathers, with bonds that suffice or just don't. */
+    private void lendings() throws Exception {
+        for (int h = 0; h < 6; h++) call("heart", random.nextInt(30));
+        for (int round = 0; round < 8; round++) {
+            if (either()) call("deed", upTo(5), 1, upTo(40), 0, -1);
+            int most = pickOne(3, 12, 40, 99);
+            for (int i = 0; i < 30; i++) call("bond", upTo(5), upTo(5), upTo(most));
+            call("whoCannot");
+            call("lending", -1, 0);
+            for (int f = 0; f < 6; f++) for (int t = 0; t < 6; t++) call("lending", f, t);
+        }
+    }
+
+    /** Hearts with judges, and lies that may or may not be too heavy. */
+    private void denials() throws Exception {
+        for (int h = 0; h < 3; h++) call("heart", 10 + random.nextInt(60));
+        for (int d = 0; d < 9; d++) call("deed", upTo(2), upTo(9), upTo(12), upTo(7), -1);
+        for (int j = 2 + upTo(6); j > 0; j--) call("judge", 1 + upTo(1022) & (either() ? 1023 : upTo(1023)) | 1 << upTo(9));
+        call("stick", upTo(12));
+        if (either()) call("lend", 0, 1, upTo(20));
+        for (int t = 0; t < 4; t++) {
+            readText(pick("", "weight size-" + upTo(9) + "*seen;") + "lie " + sum("lie", 0) + ";" + pick("", "sticks " + sum("sticks", 0) + ";", "sticks laid;"));
+            call("by", t - (either() ? 1 : 0));
+            for (int h = 0; h < 3; h++) {
+                call("truly", h);
+                for (int y = 0; y <= 8; y++) call("lies", h, y);
+            }
+        }
+    }
+
+    /** Laws that look alike, and what is known by one of them. */
+    private void laws() throws Exception {
+        for (int h = 0; h < 4; h++) call("heart", random.nextInt(200));
+        for (int d = 4 + upTo(8); d > 0; d--) call("deed", upTo(3), upTo(9), upTo(9), upTo(7), pickOne(-1, 0, 1));
+        for (int t = 0; t < 4; t++) {
+            readText("weight " + upTo(2) + "*size" + pick("", "+seen", "-repaid", "+2*fear", "+seen-fear") + pick("", "", "+bid", "+kind/8", "*heart", "-heart*seen") + ";");
+            call("tells");
+        }
+        int[] law = {random.nextInt(7) - 3, random.nextInt(7) - 3, random.nextInt(7) - 3, random.nextInt(7) - 3};
+        for (int round = 0; round < 10; round++) {
+            call("by", upTo(4) - 1);
+            int h = upTo(3);
+            call("known", h, either() ? model.ofHeart(h, 2) : linear(law, h));
+            call("fit");
+            call("tells");
+            for (int i = 0; i < 4; i++) call("smallest", i);
+            call("should", upTo(15));
+            call("featherForAll", true);
+            call("featherForAll", false);
+            if (random.nextInt(3) == 0) call("known", -1, 0);
+        }
+    }
+
+    private int linear(int[] law, int heart) {
+        int sum = 0;
+        for (int d = 0; d < model.about(1); d++) {
+            int marks = model.ofDeed(d, 3);
+            if (model.ofDeed(d, 0) == heart) sum += law[0] * model.ofDeed(d, 2) + law[1] * (marks & 1) + law[2] * (marks >> 1 & 1) + law[3] * (marks >> 2);
+        }
+        return sum;
+    }
+
+    /** All orders of up to six deeds, with and without a law of how the pan sticks. */
+    private void orders() throws Exception {
+        for (int h = 0; h < 3; h++) call("heart", random.nextInt(60));
+        for (int h = 0; h < 3; h++) for (int d = 2 + upTo(h == 0 ? 4 : 3); d > 0; d--) call("deed", h, upTo(9), upTo(20), upTo(7), -1);
+        for (int t = 0; t < 3; t++) {
+            call("stick", upTo(20));
+            if (either()) call("lend", upTo(2), upTo(2), upTo(30));
+            readText("weight size*" + upTo(2) + "+" + sum("weight", 5) + ";" + pick("", "sticks " + sum("sticks", 0) + ";"));
+            call("by", t - upTo(1));
+            for (int h = 0; h < 3; h++) {
+                for (int i = -1; i < 7; i++) {
+                    boolean heavy = either();
+                    call("lightest", h, heavy, i);
+                    if (i < 2 || either()) call("passing", h, i);
+                }
+                call("orderless", h);
+                call("sticking", h);
+            }
+        }
+    }
+
+    private int pickOne(int... of) {
+        return of[random.nextInt(of.length)];
+    }
+
+    private void allSorts() throws Exception {
         boolean small = either();
         for (int i = upTo(6); i > 0; i--) call("heart", small ? upTo(40) : near(999));
         for (int i = upTo(either() ? 12 : 24); i > 0; i--) tellDeed(small);
         for (int i = upTo(3); i > 0; i--) call("judge", upTo(1023) & upTo(1023));
         while (done.size() < CALLS && !wrong) aCall(small);
-        lookAtAll();
     }
 
     private void tellDeed(boolean small) throws Exception {
@@ -306,7 +407,9 @@ public final class ModelTests {
     private void seldom() throws Exception {
         switch (random.nextInt(10)) {
             case 0, 1 -> call("image");
-            case 2 -> call("back");
+            case 2 -> {
+                if (random.nextInt(3) == 0) call("back");
+            }
             case 3 -> call("feed", random.nextInt(), random.nextInt(), random.nextInt(), random.nextInt(), random.nextInt());
             case 4 -> call("end", near(40));
             case 5 -> call("text");
