@@ -127,6 +127,7 @@ public final class PromiseTests {
         due("bid", x.ofDeed(3, 4), 0);
 
         promise = 4;
+        due("at first none", x.ofDeed(0, 5), 0);
         due("witness", x.witness(0, 3), true);
         due("witnesses", x.ofDeed(0, 5), 3);
         due("none", x.witness(0, 0), true);
@@ -279,6 +280,15 @@ public final class PromiseTests {
         faulty("foo;", 1, 0);
         faulty("Weight 1;", 1, 0);
         faulty("weights 1;", 1, 0);
+        faulty("endA;", 1, 0);
+        faulty("endZ;", 1, 0);
+        faulty("enda;", 1, 0);
+        faulty("endz;", 1, 0);
+        faulty("end@;", 1, 3);
+        faulty("end[;", 1, 3);
+        faulty("end`;", 1, 3);
+        faulty("end{;", 1, 3);
+        faulty("featherx;", 1, 0);
         faulty("seen;", 1, 0);
         faulty("3;", 1, 0);
         faulty(";", 1, 0);
@@ -348,6 +358,7 @@ public final class PromiseTests {
         faulty("deed 1 size 1 of 0,fear,seen,fear;", 4, 29);
         faulty("judge 1,2,1;", 4, 10);
         faulty("judge 1,01;", 4, 8);
+        faulty("judge 9,9;", 4, 8);
         faulty("up 1;" + "end;".repeat(23) + "up 1;", 4, 97);
         // 5: names of others
         faulty("weight shown;", 5, 7);
@@ -376,6 +387,10 @@ public final class PromiseTests {
         due("names", worth("kind*10+size"), 82);
         due("marks", worth("seen*4+repaid*2+fear"), 6);
         due("bid", worth("bid"), 1);
+        AgainstFeather y = ruled("weight seen*4+repaid*2+fear+bid*9;");
+        y.heart(1);
+        y.deed(0, 1, 1, 4, NONE);
+        due("fear alone", y.ofDeed(0, 6), 1);
         due("from the left", worth("20-7-3"), 10);
         due("from the left", worth("20/7*3"), 6);
         due("products first", worth("2+3*4"), 14);
@@ -626,6 +641,20 @@ public final class PromiseTests {
         due("which", x.book(0, 4), 1);
         due("that lending is so", x.played(0), 5);
         due("what was done stays", x.about(0), 4);
+        x = hearts(50, 60);
+        x.deed(0, 0, 5, 0, NONE);
+        x.deed(1, 0, 6, 0, NONE);
+        x.deed(1, 0, 7, 0, NONE);
+        x.judge(2);
+        x.judge(1);
+        read(x, "lend 1 to 0 by 30;weigh 1;lay 2;lay 1;yes 1;no 0;");
+        due("all is done", x.played(0), NONE);
+        due("lent", x.ofHeart(1, 10), 30);
+        due("heart", x.scale(0), 1);
+        due("true", x.scale(1), -17);
+        due("laid", x.scale(4), 6);
+        due("answered", x.scale(5), 3);
+        due("no lies", x.scale(3), 0);
         x = new AgainstFeather();
         read(x, "up 1;end;");
         due("no weighing", x.played(0), 1);
@@ -694,6 +723,24 @@ public final class PromiseTests {
         due("true", x.book(0, 2), 15);
         due("twenty", x.day(7, 20), 20);
         due("written", x.book(NONE, 0), 21);
+        // X 29 by the seed: heart 1 of 2 with its one deed, and two judges
+        x = hearts(5, 6);
+        x.deed(1, 1, 9, 0, NONE);
+        x.judge(2);
+        x.judge(2);
+        int drawn = 29;
+        int lied = 0;
+        drawn = (drawn * 223 + 109) % 30161;
+        drawn = (drawn * 223 + 109) % 30161;
+        for (int i = 0; i < 2; i++) {
+            if (drawn % 10 < 5) lied++;
+            drawn = (drawn * 223 + 109) % 30161;
+        }
+        due("day", x.day(5, 1), 1);
+        due("heart", x.book(0, 0), 1);
+        due("true", x.book(0, 2), 9 + 3 * lied);
+        due("lies", x.book(0, 3), lied);
+        due("x", x.about(5), drawn);
     }
 
     // ---- 20: steps
@@ -729,6 +776,27 @@ public final class PromiseTests {
         due("no weighing", x.scale(0), -100000);
         due("none", x.undo(), NONE);
         due("hearts stay", x.about(0), 2);
+        AgainstFeather y = hearts(10);
+        for (int i = 0; i < 3; i++) y.deed(0, i, 20 + i, 0, NONE);
+        for (int i = 0; i < 3; i++) y.judge(1 << i);
+        y.stick(30);
+        y.day(1, 2);
+        y.weigh(0);
+        y.lay(1);
+        y.lay(0);
+        y.answer(2, false);
+        y.stick(99);
+        y.lay(2);
+        y.weigh(0);
+        y.lay(0);
+        y.answer(0, true);
+        y.judged();
+        int[] was = {0, 66, 41, 1, 7, 4};
+        for (int i = 0; i < 4; i++) y.undo();
+        for (int i = 0; i < 6; i++) due("scale(" + i + ")", y.scale(i), was[i]);
+        y.undo();
+        int[] earlier = {0, 44, 41, 1, 3, 4};
+        for (int i = 0; i < 6; i++) due("scale(" + i + ")", y.scale(i), earlier[i]);
         for (int i = 1; i <= 40; i++) x.lend(0, 1, i);
         due("30 at most", x.about(8), 30);
         for (int i = 29; i >= 0; i--) due("undo", x.undo(), i);
@@ -809,6 +877,9 @@ public final class PromiseTests {
         read(x, "weight kind-2;");
         x.by(0);
         due("it weighs 0", x.isSo(1, 1), 0);
+        read(x, "weight kind-1;");
+        x.by(1);
+        due("it weighs 1", x.isSo(1, 1), 1);
 
         promise = 25;
         x = hearts(10, 30);
@@ -927,6 +998,12 @@ public final class PromiseTests {
         x = hearts(9);
         for (int i = 0; i < 5; i++) x.deed(0, 0, 7, 0, NONE);
         due("5 deeds alike", x.sticking(0), 99);
+        AgainstFeather y = ruled("weight size+kind*17;");
+        y.heart(9);
+        y.deed(0, 0, 99, 0, NONE);
+        y.deed(0, 3, 99, 0, NONE);
+        // 99 and 150: by 99 the first one doesn't move the pan, but the second one does
+        due("all but 99", y.sticking(0), 98);
         x.deed(0, 0, 7, 0, NONE);
         due("6 deeds", x.sticking(0), NONE);
         due("nothing has changed", x.about(8), 0);
@@ -939,6 +1016,11 @@ public final class PromiseTests {
         due("by the law", x.lightest(0, false, NONE), 3);
         due("by the law", x.lightest(0, false, 0), 1);
         due("by the law", x.lightest(0, true, NONE), 4);
+        x.heart(9);
+        x.lend(1, 0, 1);
+        // begun: 1 from 0 by 0; 0 1: 2 from 1 by 1, 5 from 1 by 2; 1 0: 4, 5 from 4 by 2
+        due("as lent now", x.lightest(0, false, NONE), 4);
+        due("as lent now", x.lightest(0, true, NONE), 5);
     }
 
     // ---- 30, 31: what can be denied
@@ -981,6 +1063,21 @@ public final class PromiseTests {
         due("a lie to 0 weighs 4, to 2 weighs 2", x.lies(0, 1), 1);
         x.deed(0, 5, 2, 0, NONE);
         due("7 and 4 are too heavy, 7 and 2 aren't", x.lies(0, 1), 4);
+        AgainstFeather y = ruled("sticks 3*laid-shown;lie 2;");
+        y.heart(9);
+        y.heart(9);
+        y.deed(0, 1, 3, 0, NONE);
+        y.deed(0, 1, 3, 0, NONE);
+        y.judge(2);
+        y.judge(2);
+        // 3 from 0 by 3, 6 from 0 by 6, 8 from 0 by 6: 8, then 10 from 8 by 0 (-2): too heavy
+        due("one lie", y.lies(0, 1), 1);
+        due("two lies", y.lies(0, 0), NONE);
+        y.lend(1, 0, 1);
+        // begun: 1 from 0 by 0; 4 from 1 by 2; 7 from 4 by 2: 9 from 7 by 0: 9
+        due("as lent now", y.lies(0, 1), 1);
+        y.lend(1, 0, 2);
+        due("10 are too heavy", y.lies(0, 1), NONE);
         due("nothing has changed", x.about(8), 0);
     }
 
@@ -1240,6 +1337,11 @@ public final class PromiseTests {
         due("97.2", x.often(1, 98), 5);
         due("never", x.often(1, 100), NONE);
         due("one in two", x.often(5, 50), 1);
+        due("never errs", x.often(0, 1), 1);
+        // 77.1 by 13, 78.6 by 15
+        due("four in ten", x.often(4, 77), 13);
+        due("four in ten", x.often(4, 78), 15);
+        due("four in ten", x.often(4, 79), NONE);
         due("one in two", x.often(5, 51), NONE);
         due("always errs", x.often(10, 1), NONE);
         due("q", x.often(1, 0), NONE);
